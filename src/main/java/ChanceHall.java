@@ -66,17 +66,13 @@ public final class ChanceHall {
     public int pay(int state, int pay) throws IndexOutOfBoundsException, IllegalArgumentException {
         needState(state);
         needRange(pay, -MOST_PAY, MOST_PAY);
-        int was = games.pays[state];
-        games.pays[state] = pay;
-        return was;
+        return games.setPay(state, pay);
     }
 
     public int colour(int state, int colour) throws IndexOutOfBoundsException, IllegalArgumentException {
         needState(state);
         needRange(colour, 0, COLOURS - 1);
-        int was = lumps.colours[state];
-        lumps.colours[state] = colour;
-        return was;
+        return lumps.setColour(state, colour);
     }
 
     // ---- laws, distances
@@ -96,8 +92,7 @@ public final class ChanceHall {
         needState(from);
         needState(to);
         needRange(steps, 0, MOST_STEPS);
-        laws.countLaws(steps);
-        return laws.rows[steps][pairOf(from, to)];
+        return laws.countLaw(from, steps, to);
     }
 
     public long lawAnew(int from, int steps, int to) throws IndexOutOfBoundsException, IllegalArgumentException {
@@ -225,18 +220,13 @@ public final class ChanceHall {
     public long best(int state, int steps) throws IndexOutOfBoundsException, IllegalArgumentException {
         needState(state);
         needRange(steps, 0, MOST_STEPS);
-        games.countBests(steps);
-        return games.bests[steps][state];
+        return games.bestOf(state, steps);
     }
 
     public boolean stops(int state, int steps) throws IndexOutOfBoundsException, IllegalArgumentException {
         needState(state);
         needRange(steps, 0, MOST_STEPS);
-        if (steps == 0) {
-            return true;
-        }
-        games.countBests(steps);
-        return games.byStopping(state, steps) >= games.byGoingOn(state, steps);
+        return games.isBestToStop(state, steps);
     }
 
     public boolean reverses() {
@@ -368,6 +358,11 @@ public final class ChanceHall {
                 }
                 next[pairOf(from, to)] = count;
             }
+        }
+
+        long countLaw(int from, int steps, int to) {
+            countLaws(steps);
+            return rows[steps][pairOf(from, to)];
         }
 
         /** Needs the laws counted, to that many steps at least. */
@@ -559,6 +554,7 @@ public final class ChanceHall {
             return 1;
         }
 
+        /** No divisor below 1 is tried; a divisor is looked at all the same. */
         private static boolean dividesAll(int divisor, int numbers) {
             if (divisor < 1) {
                 return false;
@@ -720,6 +716,7 @@ public final class ChanceHall {
             }
         }
 
+        /** No chain is without slots; a divisor is looked at all the same. */
         private int slotOf(int drawn) {
             return chain.slots < 1 ? 0 : drawn % chain.slots;
         }
@@ -744,6 +741,12 @@ public final class ChanceHall {
             Arrays.fill(pays, 0);
         }
 
+        int setPay(int state, int pay) {
+            int was = pays[state];
+            pays[state] = pay;
+            return was;
+        }
+
         long driftOf(int state) {
             long sum = 0;
             for (int to = 0; to < chain.states; to++) {
@@ -752,7 +755,17 @@ public final class ChanceHall {
             return sum - (long) chain.slots * pays[state];
         }
 
-        void countBests(int steps) {
+        long bestOf(int state, int steps) {
+            countBests(steps);
+            return bests[steps][state];
+        }
+
+        boolean isBestToStop(int state, int steps) {
+            countBests(steps);
+            return byStopping(state, steps) >= byGoingOn(state, steps);
+        }
+
+        private void countBests(int steps) {
             for (int step = 0; step <= steps; step++) {
                 for (int state = 0; state < chain.states; state++) {
                     bests[step][state] = Math.max(byStopping(state, step), byGoingOn(state, step));
@@ -760,12 +773,12 @@ public final class ChanceHall {
             }
         }
 
-        long byStopping(int state, int steps) {
+        private long byStopping(int state, int steps) {
             return pays[state] * chain.countWords(steps);
         }
 
-        /** Needs the bests counted, to one step fewer; without steps one can't go on, and it is no better than to stop. */
-        long byGoingOn(int state, int steps) {
+        /** Needs the bests counted, to one step fewer; without steps one can't go on: no better than to stop. */
+        private long byGoingOn(int state, int steps) {
             return steps < 1 ? byStopping(state, steps) : chain.sumOverSlots(state, bests[steps - 1]);
         }
     }
@@ -781,6 +794,12 @@ public final class ChanceHall {
 
         void forget() {
             Arrays.fill(colours, 0);
+        }
+
+        int setColour(int state, int colour) {
+            int was = colours[state];
+            colours[state] = colour;
+            return was;
         }
 
         boolean isChainLumped() {
