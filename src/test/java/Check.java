@@ -1,6 +1,8 @@
 /** Counts and prints the answers that are not as due; each test ends by it. */
 final class Check {
     private static int wrong = 0;
+    private static long looked = 0;
+    private static String part = "";
 
     private Check() {
     }
@@ -9,19 +11,32 @@ final class Check {
         void make();
     }
 
+    /** What is looked at from here on; faults are told with it. */
+    static void beginPart(String name) {
+        part = name;
+    }
+
+    /** How many answers have been looked at: a test that looks at none would hold always. */
+    static long countLooked() {
+        return looked;
+    }
+
     static void due(String call, long got, long want) {
+        looked++;
         if (got != want) {
             say(call + " answered " + got + ", due is " + want);
         }
     }
 
     static void due(String call, boolean got, boolean want) {
+        looked++;
         if (got != want) {
             say(call + " answered " + got + ", due is " + want);
         }
     }
 
     static void dueFloat(String call, float got, float want) {
+        looked++;
         if (Float.floatToIntBits(got) != Float.floatToIntBits(want)) {
             say(call + " answered " + got + ", due is " + want);
         }
@@ -29,6 +44,7 @@ final class Check {
 
     /** The very class is due, not one below it: an ArrayIndexOutOfBoundsException is the machine's own. */
     static void dueThrow(String call, Call made, Class<? extends RuntimeException> want) {
+        looked++;
         try {
             made.make();
         } catch (RuntimeException thrown) {
@@ -55,7 +71,7 @@ final class Check {
     static void say(String fault) {
         wrong++;
         if (wrong <= 20) {
-            System.out.println(fault);
+            System.out.println(part.isEmpty() ? fault : part + ": " + fault);
         }
     }
 

@@ -29,6 +29,16 @@ final class Oracle {
         }
     }
 
+    Oracle copy() {
+        Oracle copy = new Oracle(states, slots);
+        for (int state = 0; state < states; state++) {
+            copy.goesTo[state] = goesTo[state].clone();
+            copy.pays[state] = pays[state];
+            copy.colours[state] = colours[state];
+        }
+        return copy;
+    }
+
     int weight(int state, int to) {
         int count = 0;
         for (int next : goesTo[state]) {
